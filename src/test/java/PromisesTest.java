@@ -55,8 +55,13 @@ public final class PromisesTest {
     }
 
     private static void feed(String text) {
-        for (int i = 0; i < text.length(); i++) {
-            x.feed(text.charAt(i), 1);
+        for (int i = 0; i < text.length(); i += 4) {
+            int n = Math.min(4, text.length() - i);
+            int bytes = 0;
+            for (int k = 0; k < n; k++) {
+                bytes = bytes << 8 | text.charAt(i + k);
+            }
+            x.feed(bytes, n);
         }
     }
 
@@ -197,6 +202,15 @@ public final class PromisesTest {
         x.turn(0, 1);
         x.roll(0, 0);
         due("borders(): all of one", x.borders(), 0);
+        begin(5);
+        x.carpet(0, 0);
+        x.set(0, 2, 1);
+        x.roll(0, 0);
+        due("borders() of the first yard alone", x.borders(), 1);
+        x.roll(0, 39);
+        due("borders() of the last yard alone", x.borders(), 1);
+        x.roll(0, 1);
+        due("borders() of the second yard alone", x.borders(), 2);
     }
 
     private static void walk() {
@@ -881,6 +895,20 @@ public final class PromisesTest {
         x.roll(3, 11);
         due("fewest(0, 3): two ways by one, the least", x.fewest(0, 3), 2);
         due("fewest(0, 4)", x.fewest(0, 4), 10);
+        begin(27);
+        for (int c = 0; c < 8; c++) {
+            x.carpet(0, c == 7 ? 3 : c % 3);
+        }
+        for (int c = 7; c >= 0; c--) {
+            x.roll(c, 32);
+        }
+        due("yard(39, 2)", x.yard(39, 2), 255);
+        due("fewest(3, 1): all but the lowest", x.fewest(3, 1), 127);
+        due("fewest(3, 8)", x.fewest(3, 8), 127);
+        due("fewest(3, 9)", x.fewest(3, 9), NONE);
+        due("take(0, 0)", x.take(0, 0), 1);
+        due("days(38)", x.days(38), 255);
+        due("days(1)", x.days(1), 0);
     }
 
     private static void text() {
@@ -991,6 +1019,13 @@ public final class PromisesTest {
         dueText("mat ;", -5);
         dueText("matt 0", -1);
         dueText("ma 0", -1);
+        dueText("xat 0", -1);
+        dueText("matz 0", -1);
+        dueText("amat 0", -1);
+        dueText("mat`0", -4);
+        dueText("mat{0", -4);
+        dueText("mat/0", -4);
+        dueText("mat:0", -4);
         dueText("Mat 0", -1);
         dueText("mat 0 Long 3", -7);
         dueText("3", -1);
@@ -1038,6 +1073,7 @@ public final class PromisesTest {
         dueText("mat 3 from 0; up 7", 2);
         due("count(0)", x.count(0), 8);
         dueText("shag 9", -1);
+        dueText("up 8", -4);
         dueText("rain 1;  stair", -10);
         due("rain(1, 0)", x.rain(1, 0), 0);
         dueText("rain 1", 1);
@@ -1083,6 +1119,11 @@ public final class PromisesTest {
         due("write(3, 39, 5)", x.write(3, 39, 5L), 0);
         due("sheet(3, 64, 40) anew", x.sheet(3, 64, 40), 40);
         due("write(3, 39, 5): all are 0 anew", x.write(3, 39, 5L), 0);
+        due("write(3, 0, 6)", x.write(3, 0, 6L), 0);
+        due("sheet(2, 8, 1)", x.sheet(2, 8, 1), 1);
+        due("write(2, 0, 6)", x.write(2, 0, 6L), 0);
+        due("sheet(2, 16, 2)", x.sheet(2, 16, 2), 2);
+        due("write(2, 0, 6): all are 0 anew", x.write(2, 0, 6L), 0);
         due("sheet(3, 8, 41)", x.sheet(3, 8, 41), BEYOND);
         due("write(3, 39, 5): a wrong one changes nothing", x.write(3, 39, 5L), 5);
         due("sheet(3, 0, 40)", x.sheet(3, 0, 40), 0);
@@ -1315,6 +1356,22 @@ public final class PromisesTest {
         due("image() anew", x.image(), 1);
         x.carpet(5, 1);
         due("undo() to the latest", x.undo(), 7);
+        x.carpet(5, 1);
+        x.set(7, 1, 2);
+        x.set(7, 2, 3);
+        x.set(7, 3, 4);
+        x.set(7, 4, 5);
+        x.roll(7, 6);
+        due("undo()", x.undo(), 7);
+        x.wipe();
+        dueText("up 7", -4);
+        due("carpet(0, 0) where there was one", x.carpet(0, 0), 7);
+        due("of(7, 0): it is a new one", x.of(7, 0), 0);
+        due("of(7, 1): it is a new one", x.of(7, 1), 0);
+        due("of(7, 2): it is a new one", x.of(7, 2), 8);
+        due("of(7, 3): it is a new one", x.of(7, 3), 50);
+        due("of(7, 4): it is a new one", x.of(7, 4), 0);
+        due("of(7, 5): it is a new one", x.of(7, 5), -1);
     }
 
     private static void tear() {
