@@ -693,7 +693,8 @@ public final class CarpetRealms {
         int most = -1;
         for (int y = 0; y < YARDS; y++) {
             rug.from = y;
-            int has = trial.yardsOf(rug.realm);
+            trial.survey();
+            int has = trial.yardsWithout(rug.realm, 0);
             if (has > most) {
                 most = has;
                 best = y;
@@ -1144,6 +1145,8 @@ public final class CarpetRealms {
         static final int NUMBER = 2;
         static final int SIGN = 3;
         static final int OTHER = 4;
+        /** No number that may stand in a text, nor where a carpet is that isn't rolled out. */
+        static final int FAULT = -2;
         /** Above all numbers that may be: a longer row of digits stays there and can't wrap around. */
         private static final int TOO_MUCH = 1000;
 
@@ -1151,8 +1154,8 @@ public final class CarpetRealms {
         int length;
         int token;
         int start;
-        int end;
-        int value;
+        private int end;
+        private int value;
 
         Tape() {
             bytes = new int[MOST_BYTES];
@@ -1165,7 +1168,7 @@ public final class CarpetRealms {
             }
         }
 
-        void toStart() {
+        void toFirstToken() {
             end = 0;
             toNextToken();
         }
@@ -1175,41 +1178,26 @@ public final class CarpetRealms {
             while (start < length && bytes[start] == ' ') {
                 start++;
             }
-            end = start;
-            if (start >= length) {
-                token = END;
-            } else if (isLetter(bytes[start])) {
-                token = WORD;
-                passLetters();
-            } else if (isDigit(bytes[start])) {
-                token = NUMBER;
-                passDigits();
-            } else {
-                token = bytes[start] == ';' ? SIGN : OTHER;
-                end = start + 1;
-            }
-        }
-
-        private void passLetters() {
-            while (end < length && isLetter(bytes[end])) {
-                end++;
-            }
-        }
-
-        private void passDigits() {
+            token = start < length ? tokenBegunBy(bytes[start]) : END;
+            boolean isRow = token == WORD || token == NUMBER;
+            end = isRow ? start : Math.min(length, start + 1);
             value = 0;
-            while (end < length && isDigit(bytes[end])) {
-                value = Math.min(TOO_MUCH, 10 * value + bytes[end] - '0');
+            while (isRow && end < length && tokenBegunBy(bytes[end]) == token) {
+                if (token == NUMBER) {
+                    value = Math.min(TOO_MUCH, 10 * value + bytes[end] - '0');
+                }
                 end++;
             }
         }
 
-        private static boolean isLetter(int b) {
-            return b >= 'a' && b <= 'z';
-        }
-
-        private static boolean isDigit(int b) {
-            return b >= '0' && b <= '9';
+        private static int tokenBegunBy(int b) {
+            if (b >= 'a' && b <= 'z') {
+                return WORD;
+            }
+            if (b >= '0' && b <= '9') {
+                return NUMBER;
+            }
+            return b == ';' ? SIGN : OTHER;
         }
 
         boolean isWord(String word) {
@@ -1224,8 +1212,27 @@ public final class CarpetRealms {
             return true;
         }
 
-        boolean isNumber(int least, int most) {
-            return token == NUMBER && value >= least && value <= most;
+        /** Whether a word stands here; it goes on behind it then. */
+        boolean passesWord(String word) {
+            if (!isWord(word)) {
+                return false;
+            }
+            toNextToken();
+            return true;
+        }
+
+        /** The number that stands here, or a fault, if none from the least to the most does. */
+        int numberHere(int least, int most) {
+            return token == NUMBER && value >= least && value <= most ? value : FAULT;
+        }
+
+        /** As numberHere; it goes on behind it if it is no fault. */
+        int passNumber(int least, int most) {
+            int number = numberHere(least, most);
+            if (number != FAULT) {
+                toNextToken();
+            }
+            return number;
         }
     }
 
@@ -1235,15 +1242,12 @@ public final class CarpetRealms {
      * It never goes on past a token that can't stand where it stands: so where it stops, there the fault is.
      */
     static final class PalaceReader {
-        /** No number that may stand in a text, nor where a carpet is that isn't rolled out. */
-        private static final int FAULT = -2;
-
         private PalaceReader() {
         }
 
         /** How many items there were, or -1 less the place of the fault (the world is spoilt then). */
         static int tell(Tape tape, World world, Kind[] kinds) {
-            tape.toStart();
+            tape.toFirstToken();
             for (int items = 1; items <= MOST_BYTES; items++) {
                 if (!readItem(tape, world, kinds)) {
                     break;
@@ -1260,14 +1264,14 @@ public final class CarpetRealms {
         }
 
         private static boolean readItem(Tape tape, World world, Kind[] kinds) {
-            if (tape.isWord("up")) {
+            if (tape.passesWord("up")) {
                 return readUp(tape, world);
             }
-            if (tape.isWord("rain")) {
-                return readRain(tape, world, 1);
+            if (tape.passesWord("rain")) {
+                return readPlace(tape, world, 1);
             }
-            if (tape.isWord("dry")) {
-                return readRain(tape, world, 0);
+            if (tape.passesWord("dry")) {
+                return readPlace(tape, world, 0);
             }
             for (int k = 0; k < kinds.length; k++) {
                 if (tape.isWord(kinds[k].name)) {
@@ -1278,25 +1282,25 @@ public final class CarpetRealms {
         }
 
         private static boolean readUp(Tape tape, World world) {
-            tape.toNextToken();
-            if (!tape.isNumber(0, world.count - 1) || !world.rugs[tape.value].isOut()) {
+            int c = tape.numberHere(0, world.count - 1);
+            if (c < 0 || !world.rugs[c].isOut()) {
                 return false;
             }
-            world.rugs[tape.value].putAway();
+            world.rugs[c].putAway();
             tape.toNextToken();
             return true;
         }
 
-        private static boolean readRain(Tape tape, World world, int wet) {
-            tape.toNextToken();
-            int place = readNumber(tape, 0, WEEK - 1);
-            if (place == FAULT) {
+        private static boolean readPlace(Tape tape, World world, int wet) {
+            int place = tape.passNumber(0, WEEK - 1);
+            if (place < 0) {
                 return false;
             }
             world.rain[place] = wet;
             return true;
         }
 
+        /** Behind the name of its kind; the name itself is the fault of one too many. */
         private static boolean readRug(Tape tape, World world, Kind kind) {
             int c = world.addRug(kind, 0);
             if (c < 0) {
@@ -1304,41 +1308,23 @@ public final class CarpetRealms {
             }
             Rug rug = world.rugs[c];
             tape.toNextToken();
-            rug.realm = readNumber(tape, 0, LAST_REALM);
-            if (rug.realm == FAULT) {
+            rug.realm = tape.passNumber(0, LAST_REALM);
+            if (rug.realm == Tape.FAULT) {
                 return false;
             }
-            rug.yardsLong = readBehind(tape, "long", 1, MOST_LONG, LONG_AT_FIRST);
-            if (rug.yardsLong == FAULT) {
+            rug.yardsLong = tape.passesWord("long") ? tape.passNumber(1, MOST_LONG) : LONG_AT_FIRST;
+            if (rug.yardsLong == Tape.FAULT) {
                 return false;
             }
-            rug.pile = readBehind(tape, "pile", 0, MOST_PILE, PILE_AT_FIRST);
-            if (rug.pile == FAULT) {
+            rug.pile = tape.passesWord("pile") ? tape.passNumber(0, MOST_PILE) : PILE_AT_FIRST;
+            if (rug.pile == Tape.FAULT) {
                 return false;
             }
-            int from = readBehind(tape, "from", 0, LAST_YARD, -1);
+            int from = tape.passesWord("from") ? tape.passNumber(0, LAST_YARD) : -1;
             if (from >= 0) {
                 world.layOut(rug, from);
             }
-            return from != FAULT;
-        }
-
-        /** The number behind a word that may stand there; where the word doesn't, what it is without. */
-        private static int readBehind(Tape tape, String word, int least, int most, int without) {
-            if (!tape.isWord(word)) {
-                return without;
-            }
-            tape.toNextToken();
-            return readNumber(tape, least, most);
-        }
-
-        private static int readNumber(Tape tape, int least, int most) {
-            if (!tape.isNumber(least, most)) {
-                return FAULT;
-            }
-            int number = tape.value;
-            tape.toNextToken();
-            return number;
+            return from != Tape.FAULT;
         }
     }
 }
