@@ -125,8 +125,7 @@ public final class EdgesTest {
     /** From least to most it isn't BEYOND, one less and one more are, and so are the ends of int. */
     private static void bounds(String call, int least, int most, Bound bound) {
         for (int v = least; v <= most; v++) {
-            int now = v;
-            due(call + " of " + v + " is BEYOND", bound.on(setup.get(), now) == BEYOND ? 1 : 0, 0);
+            due(call + " of " + v + " is BEYOND", bound.on(setup.get(), v) == BEYOND ? 1 : 0, 0);
         }
         for (int v : new int[] {least - 1, most + 1, LEAST, MOST}) {
             refused(call + " of " + v, BEYOND, y -> bound.on(y, v));
