@@ -1348,6 +1348,12 @@ public final class EdgesTest {
         due("best on an empty street", one(0, 8, 50, 0).best(0, 0), 0);
         due("best of one that is through by then", one(0, 8, 1, 0).best(0, 1), 0);
         due("best of one over all the street", one(1, 20, 50, 0).best(0, 0), 0);
+        x = one(1, 20, 50, 0);
+        x.roll(0, 0);
+        x.carpet(3, 1);
+        due("best where all the street is its own", x.best(1, 0), 0);
+        x.roll(1, 38);
+        due("best where all the street is its own", x.best(1, 60), 0);
         x = one(0, 8, 50, 0);
         x.roll(0, 0);
         due("best of one that lies: it doesn't stay there, too", x.best(0, 0), 0);
