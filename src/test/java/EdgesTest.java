@@ -1353,7 +1353,7 @@ public final class EdgesTest {
         x.carpet(3, 1);
         due("best where all the street is its own", x.best(1, 0), 0);
         x.roll(1, 38);
-        due("best where all the street is its own", x.best(1, 60), 0);
+        due("best where the other is through by then", x.best(1, 60), 0);
         x = one(0, 8, 50, 0);
         x.roll(0, 0);
         due("best of one that lies: it doesn't stay there, too", x.best(0, 0), 0);
